@@ -552,12 +552,8 @@ public final class ToolPlex {
                 return length;
             }
             int place = Math.min(start + unit, lineEnd(start));
-            return isWithinPair(place) ? place - 1 : place;
-        }
-
-        private boolean isWithinPair(int place) {
-            int unit = at(place);
-            return unit >= LOW && unit <= LOW + LOW_MASK;
+            boolean isWithinPair = at(place) >= LOW && at(place) <= LOW + LOW_MASK;
+            return isWithinPair ? place - 1 : place;
         }
 
         int lineOf(int place) {
@@ -583,8 +579,8 @@ public final class ToolPlex {
 
         /** The end of the line that begins at a place. */
         int lineEnd(int start) {
-            for (int i = Math.max(start, 0); i < length; i++) {
-                if (at(i) == LINE_END) {
+            for (int i = Math.max(start, 0); i < length && i < units.length; i++) {
+                if (units[i] == LINE_END) {
                     return i;
                 }
             }
@@ -695,8 +691,11 @@ public final class ToolPlex {
             editor = NONE;
         }
 
-        void alter(int from, int to, int code) {
-            text.replace(from, to, code);
+        /** Makes the change that a message tells: its positions tell places in the text as it is now. */
+        void alter(Message message) {
+            int from = text.placeOf(message.line, message.unit);
+            int to = text.placeOf(message.toLine, message.toUnit);
+            text.replace(from, to, message.code);
             int at = CELLS * made;
             if (at + CELLS > changes.length && at + CELLS <= PLENTY) {
                 changes = Arrays.copyOf(changes, 2 * (at + CELLS));
@@ -704,7 +703,7 @@ public final class ToolPlex {
             if (at >= 0 && at + CELLS <= changes.length) {
                 changes[at] = from;
                 changes[at + 1] = to;
-                changes[at + 2] = code;
+                changes[at + 2] = message.code;
             }
             made++;
             version++;
@@ -718,6 +717,22 @@ public final class ToolPlex {
                     items.move(changes[at], changes[at + 1], Text.unitsOf(changes[at + 2]));
                 }
             }
+        }
+
+        /** Moves items along by the change that was made last. */
+        void moveOn(Items items) {
+            moveAlong(items, version - 1);
+        }
+
+        /** What a place becomes by the change that was made last. */
+        int placeAfter(int place) {
+            int at = CELLS * (made - 1);
+            if (at < 0 || at + CELLS > changes.length) {
+                return place;
+            }
+            int from = changes[at];
+            int to = changes[at + 1];
+            return to <= place ? place + Text.unitsOf(changes[at + 2]) - (to - from) : Math.min(place, from);
         }
 
         /** Whether another copy has the text that this one had at the same version, if it had that. */
@@ -1136,17 +1151,14 @@ public final class ToolPlex {
         int alter(Message message) {
             int file = message.file;
             Copy copy = copyOf(file);
-            int from = copy.text.placeOf(message.line, message.unit);
-            int to = copy.text.placeOf(message.toLine, message.toUnit);
-            copy.alter(from, to, message.code);
+            copy.alter(message);
             files.setVersion(file, copy.version);
             send(message, copy.version);
-            int units = Text.unitsOf(message.code);
-            faultsOf(file).move(from, to, units);
+            copy.moveOn(faultsOf(file));
             for (int i = 0; i < asks.size(); i++) {
                 Ask ask = asks.get(i);
                 if (ask.standing == SHOWN && isMoved(ask.kind) && ask.file == file) {
-                    ask.items.move(from, to, units);
+                    copy.moveOn(ask.items);
                 } else if (ask.standing == SHOWN && (ask.file == file || ask.items.isIn(file))) {
                     ask.standing = STALE;
                 }
@@ -1375,15 +1387,11 @@ public final class ToolPlex {
             if (!copy.isHere()) {
                 return;
             }
-            int from = copy.text.placeOf(message.line, message.unit);
-            int to = copy.text.placeOf(message.toLine, message.toUnit);
-            copy.alter(from, to, message.code);
+            copy.alter(message);
             for (int i = 0; i < questions.size(); i++) {
                 Message question = questions.get(i);
-                if (question.file == message.file && to <= question.place) {
-                    question.place += Text.unitsOf(message.code) - (to - from);
-                } else if (question.file == message.file) {
-                    question.place = Math.min(question.place, from);
+                if (question.file == message.file) {
+                    question.place = copy.placeAfter(question.place);
                 }
             }
         }
@@ -1607,7 +1615,8 @@ public final class ToolPlex {
             if (editor < 0 || editor >= EDITORS || number < 0 || number >= MOST_REQUESTS) {
                 return NONE;
             }
-            return server < 0 || server >= MOST_SERVERS ? NONE : (editor * MOST_REQUESTS + number) * MOST_SERVERS + server;
+            int row = (editor * MOST_REQUESTS + number) * MOST_SERVERS;
+            return server < 0 || server >= MOST_SERVERS ? NONE : row + server;
         }
 
         /** The id of a request for a server, NONE if it was not sent on to that. */
@@ -1658,11 +1667,9 @@ public final class ToolPlex {
                 return;
             }
             taken[file] = message.version;
-            int from = copy.text.placeOf(message.line, message.unit);
-            int to = copy.text.placeOf(message.toLine, message.toUnit);
-            copy.alter(from, to, message.code);
+            copy.alter(message);
             for (int i = 0; i < MOST_SERVERS; i++) {
-                faults[file * MOST_SERVERS + i].move(from, to, Text.unitsOf(message.code));
+                copy.moveOn(faults[file * MOST_SERVERS + i]);
             }
             passOn(message);
         }
@@ -1696,7 +1703,8 @@ public final class ToolPlex {
         private void takeRequest(Message message) {
             for (int i = pending.size() - 1; i >= 0; i--) {
                 Message earlier = pending.get(i).question;
-                if (earlier.editor == message.editor && earlier.asked == message.asked && earlier.file == message.file) {
+                boolean isOfSameEditor = earlier.editor == message.editor;
+                if (isOfSameEditor && earlier.asked == message.asked && earlier.file == message.file) {
                     dismiss(i);
                     reply(earlier, CANCELLED);
                 }

@@ -583,6 +583,13 @@ public final class PromisesTest {
         due(items(both, 0, ask(both, 1, COMPLETION, 0, 5)), List.of(at(0, 1, 11, 1), at(0, 0, 2, 2),
                 at(0, 1, 10, 1), at(0, 0, 0, 2), at(0, 1, 3, 3), at(0, 0, 5, 2)));
         due(items(both, 0, ask(both, 1, COMPLETION, 0, 4)), List.of());
+        // the ends of the alphabet, and a shorter run ahead, whatever comes behind it
+        ToolPlex ends = opened(2, "1a 12 a\uD83D\uDE00 ab az09 za");
+        due(items(ends, 0, ask(ends, 1, TOKENS, 0, 0)).size(), 8);
+        due(items(ends, 0, ask(ends, 1, COMPLETION, 0, 16)), List.of(at(0, 0, 15, 2)));
+        due(items(ends, 0, ask(ends, 1, COMPLETION, 1, 0)), List.of());
+        due(items(ends, 0, ask(ends, 1, COMPLETION, 0, 3)), List.of(at(0, 0, 15, 2), at(0, 0, 0, 1), at(0, 0, 3, 2),
+                at(0, 0, 1, 1), at(0, 0, 10, 2), at(0, 0, 13, 2), at(0, 0, 18, 2)));
         // hover and definition: the first run that touches the place
         due(items(both, 0, ask(both, 1, HOVER, 0, 2)), List.of(at(0, 0, 0, 2)));
         due(items(numbers, 0, ask(numbers, 1, HOVER, 0, 2)), List.of(at(0, 0, 2, 2)));
@@ -609,15 +616,22 @@ public final class PromisesTest {
 
     private static void places() {
         // a place behind the change moves, one within it becomes its beginning, one ahead of it stays
-        int[][] changes = {{0, 0, 'x', 1}, {3, 3, 'x', 1}, {3, 4, -1, 1}, {2, 6, -1, 0}, {4, 5, -1, 0}, {0, 3, -1, 1}};
+        int[][] changes = {{0, 0, 'x', 1}, {0, 3, -1, 1}, {3, 4, -1, 1}, {4, 5, -1, 1}, {5, 9, -1, 1},
+            {2, 6, -1, 0}, {2, 7, -1, 1}};
         for (int[] c : changes) {
             ToolPlex x = opened(0, "   bb  cc");
             x.request(0, HOVER, 0, 0, 4, 0);
             x.deliverAll();
             x.change(0, 0, 0, c[0], 0, c[1], c[2]);
             x.deliverAll();
-            due(x.answer(0, 0), c[3] == 1 ? 1 : c[0] == 4 ? 1 : 0);
+            due(x.answer(0, 0), c[3]);
         }
+        ToolPlex just = opened(0, "ab cd");
+        just.request(0, HOVER, 0, 0, 2, 0);
+        just.deliverAll();
+        just.change(0, 0, 0, 2, 0, 2, ' ');
+        just.deliverAll();
+        due(just.answer(0, 0), 0);
         ToolPlex y = opened(0, "ab cd");
         int request = y.request(0, DEFINITION, 0, 0, 4, 0);
         y.deliverAll();
@@ -811,6 +825,22 @@ public final class PromisesTest {
         z.deliverAll();
         due(z.version(3, 0), 2);
         due(List.of(z.faults(0, 0), z.faults(1, 0)), List.of(0, 0));
+        // and the faults that were kept for it are gone, of the other servers too
+        ToolPlex w = plex("aa aa");
+        w.server(63, 7, 0);
+        w.server(63, 7, 0);
+        w.open(0, 0);
+        w.deliverAll();
+        w.tellFaults(0, 0);
+        w.deliver(5);
+        w.change(0, 0, 0, 2, 0, 100, -1);
+        w.close(0, 0);
+        w.open(1, 0);
+        w.deliver(1);
+        w.deliverAll();
+        due(w.tellFaults(1, 0), 0);
+        w.deliverAll();
+        due(w.faults(1, 0), 0);
     }
 
     private static void deliverAll() {

@@ -14,7 +14,7 @@ import java.util.TreeMap;
  */
 public final class RandomRunsTest {
     private static final int CALLS = 512;
-    private static final String LETTERS = "aaabbc";
+    private static final String LETTERS = "aaabbcz";
     private static final int[] ODD = {-1, 0, 1, 2, 3, 5, 6, 7, 10, 40, 64, 97, 123, 1000, 1001, 128512,
         128592, Integer.MAX_VALUE, Integer.MIN_VALUE};
     private static final Map<String, Method> TOLD = methods(ToolPlex.class);
@@ -28,7 +28,7 @@ public final class RandomRunsTest {
     private String wrong;
 
     public static void main(String[] args) {
-        int runs = args.length > 0 ? Integer.parseInt(args[0]) : 3000;
+        int runs = args.length > 0 ? Integer.parseInt(args[0]) : 2000;
         int seed = args.length > 1 ? Integer.parseInt(args[1]) : 1;
         RandomRunsTest test = new RandomRunsTest();
         for (int i = seed; i < seed + runs; i++) {
@@ -118,7 +118,7 @@ public final class RandomRunsTest {
             return LETTERS.charAt(random.nextInt(LETTERS.length()));
         }
         if (which < 12) {
-            return '1' + random.nextInt(2);
+            return "0129".charAt(random.nextInt(4));
         }
         if (which < 16) {
             return ' ';
