@@ -590,6 +590,10 @@ public final class PromisesTest {
         due(items(ends, 0, ask(ends, 1, COMPLETION, 1, 0)), List.of());
         due(items(ends, 0, ask(ends, 1, COMPLETION, 0, 3)), List.of(at(0, 0, 15, 2), at(0, 0, 0, 1), at(0, 0, 3, 2),
                 at(0, 0, 1, 1), at(0, 0, 10, 2), at(0, 0, 13, 2), at(0, 0, 18, 2)));
+        ToolPlex shorter = opened(1, " 1a 12");
+        due(items(shorter, 0, ask(shorter, 1, COMPLETION, 0, 0)), List.of(at(0, 0, 1, 1), at(0, 0, 4, 2)));
+        ToolPlex longer = opened(1, "12 1a");
+        due(items(longer, 0, ask(longer, 1, COMPLETION, 0, 3)), List.of(at(0, 0, 3, 1), at(0, 0, 0, 2)));
         // hover and definition: the first run that touches the place
         due(items(both, 0, ask(both, 1, HOVER, 0, 2)), List.of(at(0, 0, 0, 2)));
         due(items(numbers, 0, ask(numbers, 1, HOVER, 0, 2)), List.of(at(0, 0, 2, 2)));
