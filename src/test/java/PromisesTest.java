@@ -1,180 +1,45 @@
-import java.util.ArrayList;
 import java.util.List;
 
 /** For each promise of the document: ordinary inputs, the edges that it names, and wrong inputs. */
-public final class PromisesTest {
-    private static final Class<? extends RuntimeException> OUT = IndexOutOfBoundsException.class;
-    private static final Class<? extends RuntimeException> BAD = IllegalArgumentException.class;
-    private static final Class<? extends RuntimeException> NOT = IllegalStateException.class;
-    private static final int COMPLETION = 0, HOVER = 1, DEFINITION = 2, TOKENS = 3, RENAME = 4, EXTRACT = 5;
-    private static final int FACE = 128512;
-    private static final int Z = 'z';
-
-    private static int wrong = 0;
-    private static int checks = 0;
-    private static String promise = "";
-
+public final class PromisesTest extends Checks {
     public static void main(String[] args) {
-        run("1 a new object", PromisesTest::newObject);
-        run("2 file", PromisesTest::file);
-        run("3 store", PromisesTest::store);
-        run("4 server", PromisesTest::server);
-        run("5 name", PromisesTest::name);
-        run("6 open", PromisesTest::open);
-        run("7 close", PromisesTest::close);
-        run("8 change", PromisesTest::change);
-        run("8 change: positions", PromisesTest::positions);
-        run("9 request", PromisesTest::request);
-        run("10 cancel", PromisesTest::cancel);
-        run("11 apply: rename", PromisesTest::applyRename);
-        run("11 apply: extract", PromisesTest::applyExtract);
-        run("12 answer", PromisesTest::answer);
-        run("12 answer: kinds", PromisesTest::kinds);
-        run("12 answer: places are moved", PromisesTest::places);
-        run("13 tellFaults", PromisesTest::tellFaults);
-        run("14 crash", PromisesTest::crash);
-        run("15 start", PromisesTest::start);
-        run("16 deliver", PromisesTest::deliver);
-        run("16 deliver: late messages", PromisesTest::late);
-        run("17 deliverAll", PromisesTest::deliverAll);
-        run("18 waiting", PromisesTest::waiting);
-        run("19 version", PromisesTest::version);
-        run("20 unit", PromisesTest::unit);
-        run("21 agree", PromisesTest::agree);
-        run("22 standing", PromisesTest::standing);
-        run("22 standing: stale", PromisesTest::stale);
-        run("22 standing: rename over files", PromisesTest::renameStale);
-        run("23 item", PromisesTest::item);
-        run("23 item: merged", PromisesTest::merged);
-        run("24 value", PromisesTest::value);
-        run("25 token", PromisesTest::token);
-        run("26 id", PromisesTest::id);
-        run("27 faults", PromisesTest::faults);
-        run("28 fault", PromisesTest::fault);
-        System.out.println("PromisesTest: " + checks + " checks, " + wrong + " wrong");
-        System.exit(wrong == 0 ? 0 : 1);
-    }
-
-    // ---- helpers
-
-    private static void run(String name, Runnable test) {
-        promise = name;
-        try {
-            test.run();
-        } catch (RuntimeException e) {
-            wrong++;
-            System.out.println("promise " + name + ": stopped by " + e + " at " + e.getStackTrace()[0]
-                    + " of " + List.of(e.getStackTrace()).stream()
-                    .filter(f -> f.getClassName().equals("PromisesTest")).findFirst().orElse(null));
-        }
-    }
-
-    private static void due(Object got, Object want) {
-        checks++;
-        if (!got.equals(want)) {
-            wrong++;
-            System.out.println("promise " + promise + ", line " + line() + ": answered " + got + ", due is " + want);
-        }
-    }
-
-    private static void throwsJust(Class<? extends RuntimeException> due, Runnable call) {
-        checks++;
-        try {
-            call.run();
-            wrong++;
-            System.out.println("promise " + promise + ", line " + line() + ": threw nothing, due is " + due);
-        } catch (RuntimeException e) {
-            if (e.getClass() != due) {
-                wrong++;
-                System.out.println("promise " + promise + ", line " + line() + ": threw " + e + ", due is " + due);
-            }
-        }
-    }
-
-    private static int line() {
-        return new Throwable().getStackTrace()[2].getLineNumber();
-    }
-
-    /** Files "a", "b" and so on, of the language 0, with texts. */
-    private static ToolPlex plex(String... texts) {
-        ToolPlex x = new ToolPlex();
-        for (int f = 0; f < texts.length; f++) {
-            x.file('a' + f, 0);
-            for (int code : texts[f].codePoints().toArray()) {
-                x.store(f, code);
-            }
-        }
-        return x;
-    }
-
-    /** One server for all kinds and languages, and the file 0, which the editor 0 has open. */
-    private static ToolPlex opened(int style, String text) {
-        ToolPlex x = plex(text);
-        x.server(63, 7, style);
-        x.open(0, 0);
-        x.deliverAll();
-        return x;
-    }
-
-    private static String text(ToolPlex x, int whose, int file) {
-        StringBuilder units = new StringBuilder();
-        for (int i = 0; i < 101; i++) {
-            try {
-                units.append(x.unit(whose, file, i));
-            } catch (IndexOutOfBoundsException e) {
-                return units.toString();
-            }
-        }
-        return units.toString();
-    }
-
-    /** Has the first servers answer all that they were asked. */
-    private static void answers(ToolPlex x, int servers) {
-        x.deliverAll();
-        for (int s = 0; s < servers; s++) {
-            for (int i = 0; i < 80; i++) {
-                try {
-                    x.answer(s, 0);
-                } catch (IndexOutOfBoundsException e) {
-                    break;
-                }
-            }
-        }
-        x.deliverAll();
-    }
-
-    private static int ask(ToolPlex x, int servers, int kind, int line, int unit) {
-        int request = x.request(0, kind, 0, line, unit, Z);
-        answers(x, servers);
-        return request;
-    }
-
-    private static int at(int file, int line, int unit, int units) {
-        return ((file * 128 + line) * 128 + unit) * 128 + units;
-    }
-
-    private static List<Integer> items(ToolPlex x, int editor, int request) {
-        List<Integer> items = new ArrayList<>();
-        for (int i = 0; i < x.standing(editor, request) / 10; i++) {
-            items.add(x.item(editor, request, i));
-        }
-        return items;
-    }
-
-    private static List<Integer> shownFaults(ToolPlex x, int editor, int file) {
-        List<Integer> faults = new ArrayList<>();
-        for (int i = 0; i < x.faults(editor, file); i++) {
-            faults.add(x.fault(editor, file, i));
-        }
-        return faults;
-    }
-
-    private static List<Integer> tokens(ToolPlex x, int editor, int request) {
-        List<Integer> numbers = new ArrayList<>();
-        for (int i = 0; i < x.standing(editor, request) / 10 * 4; i++) {
-            numbers.add(x.token(editor, request, i));
-        }
-        return numbers;
+        run("promise 1 a new object", PromisesTest::newObject);
+        run("promise 2 file", PromisesTest::file);
+        run("promise 3 store", PromisesTest::store);
+        run("promise 4 server", PromisesTest::server);
+        run("promise 5 name", PromisesTest::name);
+        run("promise 6 open", PromisesTest::open);
+        run("promise 7 close", PromisesTest::close);
+        run("promise 8 change", PromisesTest::change);
+        run("promise 8 change: positions", PromisesTest::positions);
+        run("promise 9 request", PromisesTest::request);
+        run("promise 10 cancel", PromisesTest::cancel);
+        run("promise 11 apply: rename", PromisesTest::applyRename);
+        run("promise 11 apply: extract", PromisesTest::applyExtract);
+        run("promise 12 answer", PromisesTest::answer);
+        run("promise 12 answer: kinds", PromisesTest::kinds);
+        run("promise 12 answer: places are moved", PromisesTest::places);
+        run("promise 13 tellFaults", PromisesTest::tellFaults);
+        run("promise 14 crash", PromisesTest::crash);
+        run("promise 15 start", PromisesTest::start);
+        run("promise 16 deliver", PromisesTest::deliver);
+        run("promise 16 deliver: late messages", PromisesTest::late);
+        run("promise 17 deliverAll", PromisesTest::deliverAll);
+        run("promise 18 waiting", PromisesTest::waiting);
+        run("promise 19 version", PromisesTest::version);
+        run("promise 20 unit", PromisesTest::unit);
+        run("promise 21 agree", PromisesTest::agree);
+        run("promise 22 standing", PromisesTest::standing);
+        run("promise 22 standing: stale", PromisesTest::stale);
+        run("promise 22 standing: rename over files", PromisesTest::renameStale);
+        run("promise 23 item", PromisesTest::item);
+        run("promise 23 item: merged", PromisesTest::merged);
+        run("promise 24 value", PromisesTest::value);
+        run("promise 25 token", PromisesTest::token);
+        run("promise 26 id", PromisesTest::id);
+        run("promise 27 faults", PromisesTest::faults);
+        run("promise 28 fault", PromisesTest::fault);
+        finish("PromisesTest");
     }
 
     // ---- files and servers
