@@ -426,6 +426,22 @@ public final class CallBoundariesTest extends Checks {
         answers(x, 1);
         due(x.apply(0, 2), 1);
         due(List.of(x.name(0), x.name(1), text(x, 0, 0)), List.of('a', 'b', "a b"));
+        // it renames no file, and its span begins where the text does
+        ToolPlex y = plex("q", "");
+        y.server(63, 7, 0);
+        y.open(0, 0);
+        y.request(0, RENAME, 0, 0, 0, 'b');
+        answers(y, 1);
+        due(items(y, 0, 0), List.of(at(0, 0, 0, 1)));
+        due(y.apply(0, 0), 1);
+        // it renames a file, and no span begins where the text does
+        ToolPlex z = plex(" a", "");
+        z.server(63, 7, 0);
+        z.open(0, 0);
+        z.request(0, RENAME, 0, 0, 1, 'b');
+        answers(z, 1);
+        due(items(z, 0, 0), List.of(at(0, 127, 127, 127), at(0, 0, 1, 1)));
+        refused(z, NOT, () -> z.apply(0, 0));
         // the letter was free when it was asked, and a file has been added since
         x.request(0, RENAME, 0, 0, 0, 'c');
         answers(x, 1);
@@ -697,6 +713,11 @@ public final class CallBoundariesTest extends Checks {
         due(x.agree(0), true);
         x.deliverAll();
         due(List.of(x.version(3, 0), x.agree(0)), List.of(5, true));
+        // changes of before the opening are none of those since
+        x.change(1, 0, 0, 0, 0, 0, 'e');
+        x.deliver(1);
+        x.change(1, 0, 0, 0, 0, 1, -1);
+        due(List.of(x.version(1, 0), x.version(2, 0), x.version(3, 0), x.agree(0)), List.of(7, 6, 5, true));
     }
 
     // ---- 22 to 28: answers and faults

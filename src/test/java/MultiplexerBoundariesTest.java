@@ -190,6 +190,36 @@ public final class MultiplexerBoundariesTest extends Checks {
         due(sentAgain(w, 0), List.of(at(0, 0, 3, 2)));
     }
 
+    @Sentence("It has a copy of each open document, with all versions. (those since it was opened: what was changed before"
+            + " moves nothing)")
+    static void openedAgain() {
+        for (int late = 0; late < 3; late++) {
+            ToolPlex x = opened(0, "aa aa");
+            for (int i = 0; i < 4; i++) {
+                x.change(0, 0, 0, 0, 0, 0, ' ');
+            }
+            x.change(0, 0, 0, 0, 0, 4, -1);
+            x.close(0, 0);
+            due(x.open(0, 0), 7);
+            x.deliverAll();
+            x.request(0, TOKENS, 0, 0, 0, 0);
+            x.request(0, DEFINITION, 0, 0, 4, 0);
+            x.deliverAll();
+            x.answer(0, 0);
+            x.answer(0, 0);
+            x.tellFaults(0, 0);
+            for (int i = 0; i < 3 * late; i++) {
+                x.deliver(i < 3 ? 5 : 8);
+            }
+            due(x.change(0, 0, 0, 0, 0, 0, 'b'), 8);
+            due(x.change(0, 0, 0, 1, 0, 1, '\n'), 9);
+            x.deliverAll();
+            due(items(x, 0, 0), List.of(at(0, 1, 0, 2), at(0, 1, 3, 2)));
+            due(items(x, 0, 1), List.of(at(0, 1, 0, 2)));
+            due(shownFaults(x, 0, 0), List.of(at(0, 1, 3, 2)));
+        }
+    }
+
     // ---- REQUEST and CANCEL
 
     @Sentence("if it has a request of the same editor, kind and file that is not answered, that is cancelled")
@@ -600,6 +630,21 @@ public final class MultiplexerBoundariesTest extends Checks {
         return x;
     }
 
+    /** Files "p" and "q": the editor 0 has asked the one server to rename "c" in both, at its place in the second one. */
+    private static ToolPlex renamingUpper() {
+        ToolPlex x = new ToolPlex();
+        x.file('p', 0);
+        x.file('q', 0);
+        x.store(0, 'c');
+        x.store(1, 'c');
+        x.server(63, 7, 0);
+        x.open(0, 0);
+        x.open(0, 1);
+        x.request(0, RENAME, 1, 0, 0, Z);
+        x.deliverAll();
+        return x;
+    }
+
     @Sentence("an answer of 4 is left out that has another version of some document, of which it has items, than the"
             + " multiplexer's copy of that has now (or of which it has no copy)")
     static void leftOut() {
@@ -632,6 +677,12 @@ public final class MultiplexerBoundariesTest extends Checks {
         w.change(0, 1, 0, 0, 0, 0, 'x');
         w.deliverAll();
         due(w.standing(0, 0), 3);
+        // a document with a lower number than that for which was asked
+        ToolPlex u = renamingUpper();
+        u.answer(0, 0);
+        u.change(0, 0, 0, 0, 0, 0, -1);
+        u.deliverAll();
+        due(u.standing(0, 0), 3);
         // a document of which it has no items does not matter
         ToolPlex v = plex("c", "d");
         v.server(63, 7, 0);
@@ -924,6 +975,19 @@ public final class MultiplexerBoundariesTest extends Checks {
             x.deliver(8);
             due(x.standing(0, 0), what == 0 || what > 3 ? 21 : 3);
         }
+        // one with a lower number than that for which was asked
+        for (int what = 0; what < 2; what++) {
+            ToolPlex x = renamingUpper();
+            x.answer(0, 0);
+            x.deliver(5);
+            if (what == 0) {
+                x.change(0, 0, 0, 0, 0, 0, -1);
+            } else {
+                x.close(0, 0);
+            }
+            x.deliver(8);
+            due(x.standing(0, 0), 3);
+        }
         // open in the other editor
         ToolPlex y = plex("c", "c");
         y.server(63, 7, 0);
@@ -1025,6 +1089,11 @@ public final class MultiplexerBoundariesTest extends Checks {
         ToolPlex y = shown();
         y.change(0, 1, 0, 0, 0, 0, -1);
         due(standings(y), List.of(11, 11, 11, 11, 3, 11));
+        ToolPlex u = renamingUpper();
+        answers(u, 1);
+        due(u.standing(0, 0), 21);
+        u.change(0, 0, 0, 1, 0, 1, ' ');
+        due(u.standing(0, 0), 3);
         // a document without items
         ToolPlex z = shown();
         z.change(0, 2, 0, 0, 0, 0, ' ');
@@ -1050,6 +1119,10 @@ public final class MultiplexerBoundariesTest extends Checks {
         ToolPlex y = shown();
         y.close(0, 1);
         due(standings(y), List.of(11, 11, 11, 11, 3, 11));
+        ToolPlex u = renamingUpper();
+        answers(u, 1);
+        u.close(0, 0);
+        due(u.standing(0, 0), 3);
         ToolPlex z = shown();
         z.close(0, 2);
         due(standings(z), List.of(11, 11, 11, 11, 21, 11));
