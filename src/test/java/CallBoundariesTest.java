@@ -713,11 +713,14 @@ public final class CallBoundariesTest extends Checks {
         due(x.agree(0), true);
         x.deliverAll();
         due(List.of(x.version(3, 0), x.agree(0)), List.of(5, true));
-        // changes of before the opening are none of those since
-        x.change(1, 0, 0, 0, 0, 0, 'e');
-        x.deliver(1);
-        x.change(1, 0, 0, 0, 0, 1, -1);
-        due(List.of(x.version(1, 0), x.version(2, 0), x.version(3, 0), x.agree(0)), List.of(7, 6, 5, true));
+        // changes that the editor made before the opening are none of those since
+        x.close(1, 0);
+        x.open(0, 0);
+        x.deliverAll();
+        x.change(0, 0, 0, 0, 0, 0, 'e');
+        x.deliver(0);
+        x.change(0, 0, 0, 0, 0, 1, -1);
+        due(List.of(x.version(0, 0), x.version(2, 0), x.version(3, 0), x.agree(0)), List.of(8, 7, 6, true));
     }
 
     // ---- 22 to 28: answers and faults

@@ -198,9 +198,8 @@ public final class MultiplexerBoundariesTest extends Checks {
             for (int i = 0; i < 4; i++) {
                 x.change(0, 0, 0, 0, 0, 0, ' ');
             }
-            x.change(0, 0, 0, 0, 0, 4, -1);
             x.close(0, 0);
-            due(x.open(0, 0), 7);
+            due(x.open(0, 0), 6);
             x.deliverAll();
             x.request(0, TOKENS, 0, 0, 0, 0);
             x.request(0, DEFINITION, 0, 0, 4, 0);
@@ -211,12 +210,12 @@ public final class MultiplexerBoundariesTest extends Checks {
             for (int i = 0; i < 3 * late; i++) {
                 x.deliver(i < 3 ? 5 : 8);
             }
-            due(x.change(0, 0, 0, 0, 0, 0, 'b'), 8);
-            due(x.change(0, 0, 0, 1, 0, 1, '\n'), 9);
+            due(x.change(0, 0, 0, 0, 0, 0, 'b'), 7);
+            due(x.change(0, 0, 0, 1, 0, 1, '\n'), 8);
             x.deliverAll();
-            due(items(x, 0, 0), List.of(at(0, 1, 0, 2), at(0, 1, 3, 2)));
-            due(items(x, 0, 1), List.of(at(0, 1, 0, 2)));
-            due(shownFaults(x, 0, 0), List.of(at(0, 1, 3, 2)));
+            due(items(x, 0, 0), List.of(at(0, 1, 4, 2), at(0, 1, 7, 2)));
+            due(items(x, 0, 1), List.of(at(0, 1, 4, 2)));
+            due(shownFaults(x, 0, 0), List.of(at(0, 1, 7, 2)));
         }
     }
 
