@@ -442,6 +442,22 @@ public final class CallBoundariesTest extends Checks {
         answers(z, 1);
         due(items(z, 0, 0), List.of(at(0, 127, 127, 127), at(0, 0, 1, 1)));
         refused(z, NOT, () -> z.apply(0, 0));
+        // each other file counts, the last one, too
+        for (int of = 0; of < 6; of++) {
+            ToolPlex six = plex("", "", "", "", "", "");
+            six.server(63, 7, 0);
+            six.open(0, of);
+            six.change(0, of, 0, 0, 0, 0, 'a' + of);
+            for (int letter = 'a'; letter < 'g'; letter++) {
+                six.request(0, RENAME, of, 0, 0, letter);
+                answers(six, 1);
+                int request = letter - 'a';
+                if (request != of) {
+                    refused(six, NOT, () -> six.apply(0, request));
+                }
+            }
+            due(six.apply(0, of), 1);
+        }
         // the letter was free when it was asked, and a file has been added since
         x.request(0, RENAME, 0, 0, 0, 'c');
         answers(x, 1);

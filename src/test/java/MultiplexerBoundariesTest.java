@@ -219,6 +219,40 @@ public final class MultiplexerBoundariesTest extends Checks {
         }
     }
 
+    @Sentence("the faults that it keeps for the document (of each server, and of the last file, too)")
+    static void keptFaultsOfAll() {
+        for (int file = 0; file < 6; file += 5) {
+            for (int told = 0; told < 3; told++) {
+                ToolPlex x = plex("", "", "", "", "", "");
+                for (int unit = 0; unit < 3; unit++) {
+                    x.store(file, unit == 1 ? ' ' : 'a');
+                }
+                for (int s = 0; s < 3; s++) {
+                    x.server(63, 7, s == told ? 0 : 1);
+                }
+                x.open(1, file);
+                x.deliverAll();
+                due(x.tellFaults(told, file), 1);
+                x.deliverAll();
+                x.change(1, file, 0, 0, 0, 0, ' ');
+                x.deliverAll();
+                for (int s = 0; s < 3; s++) {
+                    due(x.tellFaults(s, file), s == told ? 1 : 0);
+                    x.deliverAll();
+                    due(shownFaults(x, 1, file), List.of(at(file, 0, 3, 1)));
+                }
+                // OPEN alone, as CLOSE comes late
+                x.close(1, file);
+                x.open(0, file);
+                x.deliver(0);
+                x.deliverAll();
+                due(x.tellFaults((told + 1) % 3, file), 0);
+                x.deliverAll();
+                due(x.faults(0, file), 0);
+            }
+        }
+    }
+
     // ---- REQUEST and CANCEL
 
     @Sentence("if it has a request of the same editor, kind and file that is not answered, that is cancelled")
@@ -407,6 +441,20 @@ public final class MultiplexerBoundariesTest extends Checks {
         // the other one is there still, at each server
         answers(x, 3);
         due(x.standing(0, 1), 11);
+        // one with the same number, of the other editor, stays
+        ToolPlex y = plex("a", "b");
+        y.server(63, 7, 0);
+        y.open(0, 0);
+        y.open(1, 1);
+        y.request(0, HOVER, 0, 0, 0, 0);
+        y.request(1, HOVER, 1, 0, 0, 0);
+        y.deliverAll();
+        y.cancel(0, 0);
+        due(y.deliverAll(), 3);
+        due(List.of(y.standing(0, 0), y.standing(1, 0)), List.of(2, 0));
+        y.answer(0, 0);
+        y.deliverAll();
+        due(items(y, 1, 0), List.of(at(1, 0, 0, 1)));
         // it was answered already: CANCEL does nothing
         x.request(0, HOVER, 0, 0, 0, 0);
         x.deliverAll();
@@ -473,7 +521,7 @@ public final class MultiplexerBoundariesTest extends Checks {
         due(x.tellFaults(0, 0), 1);
         x.deliver(0);
         due(x.deliver(5), 6);
-        due(x.waiting(8), 0);
+        due(List.of(x.waiting(2), x.waiting(8), x.deliverAll()), List.of(1, 0, 1));
         // opened since, with a later version
         ToolPlex y = opened(0, "a a");
         due(y.tellFaults(0, 0), 1);
@@ -816,6 +864,24 @@ public final class MultiplexerBoundariesTest extends Checks {
         due(mergedOf(DEFINITION, "a", 0, 0, 'b'), List.of(at(0, 0, 0, 2), at(0, 0, 1, 1)));
         due(mergedOf(DEFINITION, "ab", 0, 1, -1), List.of(at(0, 0, 0, 1)));
         due(mergedOf(DEFINITION, "a", 0, 1, -1), List.of());
+        // one within the other: the start goes first
+        ToolPlex x = plex("a");
+        x.server(63, 7, 0);
+        x.server(63, 7, 0);
+        x.open(0, 0);
+        for (int last = 0; last < 2; last++) {
+            x.request(0, DEFINITION, 0, 0, 1, 0);
+            x.deliverAll();
+            x.answer(last, 0);
+            x.change(0, 0, 0, 1 + 2 * last, 0, 1 + 2 * last, 'c');
+            x.change(0, 0, 0, 0, 0, 0, 'b');
+            x.deliverAll();
+            x.answer(1 - last, 0);
+            x.deliverAll();
+        }
+        due(text(x, 0, 0), "bbacc");
+        due(items(x, 0, 0), List.of(at(0, 0, 1, 3), at(0, 0, 2, 1)));
+        due(items(x, 0, 1), List.of(at(0, 0, 0, 5), at(0, 0, 1, 3)));
     }
 
     @Sentence("of 3, by rising servers, all tokens that have no unit in common with one that was taken ahead, in order by"
@@ -846,6 +912,33 @@ public final class MultiplexerBoundariesTest extends Checks {
         y.open(0, 0);
         due(y.standing(0, ask(y, 3, TOKENS, 0, 0)), 1001);
         due(items(y, 0, 0).get(99), at(0, 0, 99, 1));
+    }
+
+    @Sentence("when all have, the answers are merged (if just one of them has items, whichever it is)")
+    static void justOneHasItems() {
+        for (int has = 0; has < 3; has++) {
+            for (int kind = 0; kind < 5; kind++) {
+                ToolPlex x = plex("ab");
+                for (int s = 0; s < 3; s++) {
+                    x.server(63, 7, s == has ? 0 : 1);
+                }
+                x.open(0, 0);
+                due(items(x, 0, ask(x, 3, kind, 0, 1)), List.of(at(0, 0, 0, 2)));
+            }
+            // for 5 the style does not matter: the others have crashed
+            ToolPlex x = plex("ab");
+            for (int s = 0; s < 3; s++) {
+                x.server(63, 7, 0);
+            }
+            x.open(0, 0);
+            x.request(0, EXTRACT, 0, 0, 0, Z);
+            x.deliverAll();
+            x.answer(has, 0);
+            x.crash((has + 1) % 3);
+            x.crash((has + 2) % 3);
+            x.deliverAll();
+            due(items(x, 0, 0), List.of(at(0, 0, 0, 2)));
+        }
     }
 
     @Sentence("If the document is not open then, or was opened with a later version than that for which was asked, the"
@@ -1122,6 +1215,18 @@ public final class MultiplexerBoundariesTest extends Checks {
         answers(u, 1);
         u.close(0, 0);
         due(u.standing(0, 0), 3);
+        // those without items, too; but not those for another document
+        for (int kind = 0; kind < 6; kind++) {
+            ToolPlex v = plex("", "");
+            v.server(63, 7, 0);
+            v.open(0, 0);
+            v.open(0, 1);
+            due(v.standing(0, ask(v, 1, kind, 0, 0)), 1);
+            v.close(0, 1);
+            due(v.standing(0, 0), 1);
+            v.close(0, 0);
+            due(v.standing(0, 0), 3);
+        }
         ToolPlex z = shown();
         z.close(0, 2);
         due(standings(z), List.of(11, 11, 11, 11, 21, 11));
